@@ -1136,6 +1136,7 @@ public final class FlickedCrates {
         private int staying = 0;
         private int seed = 0;
         private boolean unseeing = false;
+        private boolean moved = false;
 
         Day(Told told, Stock before) {
             this.told = told;
@@ -1148,9 +1149,40 @@ public final class FlickedCrates {
             lefts = goingLeft;
             unseeing = seesNothing;
             begin();
-            for (int now = 0; now < SECONDS && staying > 0; now++) {
+            int now = 0;
+            while (now < SECONDS && staying > 0) {
+                moved = false;
                 for (int looker = 0; looker < told.lookers; looker++) {
                     turn(looker, now);
+                }
+                int next = now + 1;
+                if (!moved) {
+                    next = Math.max(next, nextDone(now));
+                    waitOn(now, next - now - 1);
+                }
+                now = next;
+            }
+        }
+
+        /**
+         * When the next one is done. Behind a second in which nobody moved all are alike until then,
+         * so that they need not be gone through one by one.
+         */
+        private int nextDone(int now) {
+            int next = SECONDS;
+            for (int looker = 0; looker < told.lookers; looker++) {
+                int doneBy = done.at(looker);
+                if (stands.at(looker) != AWAY && doneBy > now) {
+                    next = Math.min(next, doneBy);
+                }
+            }
+            return next;
+        }
+
+        private void waitOn(int now, int seconds) {
+            for (int looker = 0; looker < told.lookers; looker++) {
+                if (stands.at(looker) != AWAY && done.at(looker) <= now) {
+                    waited.add(looker, seconds);
                 }
             }
         }
@@ -1224,10 +1256,12 @@ public final class FlickedCrates {
             stands.put(looker, AWAY);
             gone.put(looker, now);
             staying--;
+            moved = true;
         }
 
         private void come(int looker, int crate, int now) {
             stands.put(looker, crate);
+            moved = true;
             int seconds = roundedUp(stock.size(crate), told.ofLooker(looker, PACE));
             if (!unseeing) {
                 seconds += told.stop * goThrough(looker, crate);
@@ -1450,13 +1484,15 @@ public final class FlickedCrates {
             goods.fill(NONE);
             sets.fill(0);
             goods.put(0, 0);
+            int together = 0;
             for (int sleeve = 0; sleeve < told.sleeves; sleeve++) {
                 if (stock.lies(sleeve)) {
-                    offer(sleeve, money);
+                    together = Math.min(money, together + told.ofSleeve(sleeve, PRICE));
+                    offer(sleeve, together);
                 }
             }
             int best = 0;
-            for (int price = 1; price <= money; price++) {
+            for (int price = 1; price <= together; price++) {
                 if (goods.at(price) > goods.at(best)) {
                     best = price;
                 }
@@ -1465,10 +1501,10 @@ public final class FlickedCrates {
         }
 
         /** A set with this sleeve is above all sets of those ahead, so that it must be better, not alike. */
-        private void offer(int sleeve, int money) {
+        private void offer(int sleeve, int most) {
             int cost = told.ofSleeve(sleeve, PRICE);
             int good = told.ofSleeve(sleeve, GOOD);
-            for (int price = money; price >= cost; price--) {
+            for (int price = most; price >= cost; price--) {
                 int rest = price - cost;
                 if (goods.at(rest) != NONE && goods.at(rest) + good > goods.at(price)) {
                     goods.put(price, goods.at(rest) + good);
