@@ -1401,19 +1401,19 @@ public final class FlickedCrates {
 
         /** Whether a sleeve, put back k times or fewer from its own crate, can be where it lies. */
         boolean canBe(int sleeve, int k) {
-            int own = told.ofSleeve(sleeve, OWN);
-            int reached = 1 << own;
+            int reached = 1 << told.ofSleeve(sleeve, OWN);
             for (int times = 0; times < k; times++) {
-                reached |= reachedFrom(reached, own);
+                reached = reachedFrom(reached);
             }
             return hasBit(reached, stock.where.at(sleeve));
         }
 
-        private int reachedFrom(int set, int own) {
+        /** The crates of a set and those reached from them; back to its own, or to this one, is in the set already. */
+        private int reachedFrom(int set) {
             if (told.weights.at(BACK_ANY) > 0) {
                 return (1 << told.crates) - 1;
             }
-            int reached = told.weights.at(BACK_OWN) > 0 ? 1 << own : 0;
+            int reached = set;
             if (told.weights.at(BACK_BESIDE) > 0) {
                 for (int crate = 0; crate < told.crates; crate++) {
                     if (hasBit(set, crate)) {

@@ -73,6 +73,10 @@ public final class BestTest {
             most.append("sleeve 0 99 9;");
         }
         basket(Checks.of(most.toString()), 999, 90, 990, 1023);
+        most.append("lies 0 0;");
+        String just = most.toString().replaceFirst("99 9", "9 1");
+        basket(Checks.of(just), 999, 91, 999, 2047);
+        basket(Checks.of(just), 998, 90, 990, 2046);
         basket(new FlickedCrates(), 999, 0, 0, 0);
         FlickedCrates sold = Checks.of("crate 0;sleeve 0 7 5;sleeve 0 4 9;looker 0 1 9 9 9;miss 1 0;");
         sold.day(1);

@@ -6,6 +6,7 @@ public final class DayTest {
         changingPlaces();
         puttingBack();
         drawing();
+        eachItsOwn();
         missing();
         neverGone();
         emptyCrates();
@@ -134,6 +135,20 @@ public final class DayTest {
         Checks.row("two anywhere", y, 2, 1);
     }
 
+    /** Each call lets its own day go by, whatever was asked ahead of it. */
+    private static void eachItsOwn() {
+        FlickedCrates x = Checks.of("crate 0;crate 5;crate 10;sleeve 5 9 0;looker 0 1 0 0 0;left 0;back 0 0 0 1;miss 1 0;");
+        Checks.due("then by 1", x.then(0, 1), 2);
+        Checks.due("then by 0", x.then(0, 0), 1);
+        Checks.due("held by 1", x.would(1, 3), 2);
+        // A second in each empty crate, and 6 where it is held up.
+        Checks.due("gone by 0", x.buys(0, 0, 3), 1 + 6 + 1);
+        Checks.due("gone by 1", x.buys(0, 1, 3), 1 + 6 + 6);
+        Checks.due("gone by 0", x.would(0, 5), 1 + 6 + 1);
+        x.round(0);
+        Checks.due("then by 1", x.then(0, 1), 2);
+    }
+
     private static void drawn(String text, int seed, int heldUp, int where) {
         FlickedCrates x = Checks.of(text);
         Checks.due(text + " by " + seed + ": held up", x.would(seed, 3), heldUp);
@@ -165,6 +180,17 @@ public final class DayTest {
         buys(x, 5, 1, 0, 0, 3600, -1);
         would(x, 1, 0, 0, (1 + 2 + 3 + 4) * each + 3600, 24 * 5, 0, -1);
         Checks.due("day", x.day(1), 0);
+        // With one looker less all but the last are gone.
+        FlickedCrates y = Checks.of(text.substring(0, text.length() - 17) + "miss 1 0;stop 30;");
+        would(y, 1, 0, 0, (1 + 2 + 3 + 4) * each, 24 * 5, 0, -1);
+        // 3,599 is the last second in which one may go.
+        String full = "crate 0;" + "sleeve 0 9 0;".repeat(24) + "miss 1 0;miss 2 0;stop 29;";
+        FlickedCrates last = Checks.of(full + "looker 11 1 0 0 0;".repeat(4) + "looker 11 2 0 0 0;");
+        buys(last, 4, 1, 0, 0, 4 * 720, 11 + 4 * 720 + 708);
+        would(last, 1, 0, 0, (1 + 2 + 3 + 4) * 720, 24 * 5, 0, 3599);
+        FlickedCrates late = Checks.of(full + "looker 12 1 0 0 0;".repeat(4) + "looker 12 2 0 0 0;");
+        buys(late, 4, 1, 0, 0, 4 * 720, -1);
+        would(late, 1, 0, 0, (1 + 2 + 3 + 4) * 720, 24 * 5, 0, -1);
     }
 
     private static void emptyCrates() {

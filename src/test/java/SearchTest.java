@@ -6,6 +6,7 @@ public final class SearchTest {
         odds();
         hidden();
         orderAndMean();
+        eachItsOwn();
         sold();
         refusals();
         Checks.end();
@@ -109,6 +110,17 @@ public final class SearchTest {
         // In the order where nothing is sure, that of fractions counts: 1 of 2 for 5 seconds, 1 of 2 for 1.
         order(full, 0, 1, 1, 1, 0);
         mean(full, 0, 1, 1, 1 + 6, 2);
+    }
+
+    /** Each call ranks for itself, whatever was asked ahead of it. */
+    private static void eachItsOwn() {
+        FlickedCrates x = Checks.of(THREE);
+        Checks.due("mean by 2", x.mean(0, 1, 2, 1), 8);
+        Checks.due("mean by 1", x.mean(0, 1, 1, 1), 6);
+        Checks.due("order by 2", x.order(0, 1, 2, 0), 0);
+        Checks.due("order by 1", x.order(0, 1, 1, 0), 1);
+        Checks.due("odds, twice", x.odds(0, 0, 2, 0), 5);
+        Checks.due("odds, once", x.odds(0, 0, 1, 0), 11);
     }
 
     private static void sold() {

@@ -84,6 +84,12 @@ public final class ShopTest {
         }
         Checks.notFit("told(8)", x, () -> x.told(8));
         Checks.notFit("told(-1)", x, () -> x.told(-1));
+        Checks.shop(x, "crate 0;looker 1 1 1 1 1;left 0;miss 5 8;sleeve 0 1 1;sleeve 0 1 1;disc 0 1;");
+        Checks.due("to the left", x.looker(0, 5), 1);
+        Checks.shop(x, "crate 0;looker 1 1 1 1 1;sleeve 0 1 1;sleeve 0 1 1;");
+        Checks.due("not to the left in the next shop", x.looker(0, 5), 0);
+        Checks.due("missed in the next shop", x.missed(5), 4);
+        Checks.due("disc in the next shop", x.sleeve(0, 5), 0);
         Checks.due("the next shop begins anew", Checks.shop(x, "crate 0;"), 0);
         int[] anew = {1, 0, 0, 5, 1, 0, 0, 0};
         for (int what = 0; what < 8; what++) {
@@ -137,6 +143,18 @@ public final class ShopTest {
         bad(x, "crate 0 5;", 1, 8);
         bad(x, "crate 0;7;", 1, 8);
         bad(x, "crate 0;stop 5\u00ff;", 1, 14);
+        bad(x, "crate 0;stopz 5;", 1, 8);
+        bad(x, "crate 0;stopa 5;", 1, 8);
+        bad(x, "crate 0;stop{ 5;", 1, 12);
+        bad(x, "crate 0;stop`5;", 1, 12);
+        bad(x, "crate 0;stop /5;", 1, 13);
+        bad(x, "crate 0;stop 5:;", 1, 14);
+        // What lies on the tape behind the first n bytes is no part of the text.
+        cut(x, "crate 0;stop 5;", 14, 1, 14);
+        cut(x, "crate 0;stop 5   ;", 15, 1, 15);
+        cut(x, "crate 0;stop 5", 11, 1, 8);
+        cut(x, "crate 0;stop 31;", 14, 1, 14);
+        cut(x, "crate 0;    stop 3;", 10, 0, -1);
         String[] words = {"sleeve 0 1 0;", "lies 0 0;", "disc 0 1;", "looker 0 1 0 0 0;", "left 0;", "miss 1 0;",
             "stop 1;", "back 1 0 0 0;"};
         for (String word : words) {
@@ -234,6 +252,12 @@ public final class ShopTest {
     private static void good(FlickedCrates x, String text, int sleeves) {
         Checks.due("shop of \"" + text + "\"", Checks.shop(x, text), sleeves);
         Checks.due("fault of \"" + text + "\"", x.fault(), -1);
+    }
+
+    private static void cut(FlickedCrates x, String text, int n, int fault, int place) {
+        Checks.feed(x, text);
+        Checks.due(n + " bytes of \"" + text + "\"", x.shop(n), fault == 0 ? 0 : fault - 10);
+        Checks.due("place in " + n + " bytes of \"" + text + "\"", x.fault(), place);
     }
 
     private static void bad(FlickedCrates x, String text, int fault, int place) {

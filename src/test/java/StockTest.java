@@ -85,6 +85,10 @@ public final class StockTest {
         Checks.noCrate("lay(0, 4)", x, () -> x.lay(0, 4));
         Checks.noCrate("lay(9, -1)", x, () -> x.lay(9, -1));
         Checks.noSuch("lay(5, 0)", x, () -> x.lay(5, 0));
+        FlickedCrates full = Checks.of("crate 0;" + "sleeve 0 1 0;".repeat(24));
+        full.lay(3, 0);
+        full.lay(22, 0);
+        Checks.row("24", full, 0, 0, 1, 2, 4, 5, 6, 7, 8, 9, 10, 11, 12, 13, 14, 15, 16, 17, 18, 19, 20, 21, 23, 3, 22);
         FlickedCrates y = Checks.of("crate 0;sleeve 0 1 0;looker 0 1 0 9 9;miss 1 0;");
         y.day(1);
         Checks.sold("lay of a sold one", y, () -> y.lay(0, 0));
