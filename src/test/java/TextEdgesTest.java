@@ -85,6 +85,7 @@ public final class TextEdgesTest {
         ownCrate();
         latestFault();
         allStaysBehindAFault();
+        eachShopAnew();
         Checks.end();
     }
 
@@ -309,6 +310,8 @@ public final class TextEdgesTest {
             String numbers = shape.with(-1, "").substring(at + shape.word.length());
             good(shape.ahead + shape.word + numbers, Checks.shop(new FlickedCrates(), shape.with(-1, "")));
             bad(shape.ahead + shape.word + "s" + numbers, 1, at);
+            bad(shape.ahead + shape.word + "a" + numbers, 1, at);
+            bad(shape.ahead + shape.word + "z" + numbers, 1, at);
             bad(shape.ahead + "x" + shape.word + numbers, 1, at);
             bad(shape.ahead + shape.word.substring(1) + numbers, 1, at);
             bad(shape.ahead + shape.word.substring(0, shape.word.length() - 1) + numbers, 1, at);
@@ -649,5 +652,53 @@ public final class TextEdgesTest {
         Checks.due("stays: disc", x.sleeve(0, 5), 1);
         Checks.due("stays: divider", x.divider(0), 1);
         Checks.due("stays: letter", x.crate(1, 0), 10);
+    }
+
+    /** What a shop's text does not tell is as "without" it, whatever the one ahead, or a faulty one, told. */
+    private static void eachShopAnew() {
+        StringBuilder all = new StringBuilder("crate 0;crate 3;crate 9;" + "sleeve 9 1 1;".repeat(6) + "looker 9 8 9 9 9;".repeat(2));
+        all.append("left 0;left 1;stop 30;back 9 8 7 6;lies 0 0;lies 1 1;disc 0 5;disc 1 4;");
+        for (int f = 1; f <= 8; f++) {
+            all.append("miss ").append(f).append(' ').append(f == 8 ? 1 : 8).append(';');
+        }
+        for (String end : new String[] {"", "!"}) {
+            FlickedCrates x = new FlickedCrates();
+            Checks.due("with all", Checks.shop(x, all + end), end.isEmpty() ? 6 : -9);
+            if (end.isEmpty()) {
+                x.wander(0, 2);
+                x.lay(2, 0);
+                x.change(2, 3);
+            }
+            good(x, "crate 0;crate 5;sleeve 0 2 0;sleeve 7 3 0;sleeve 0 4 0;looker 1 2 3 4 5;looker 5 4 3 2 1;", 3);
+            int[] told = {2, 3, 2, 5, 1, 0, 0, 0};
+            for (int what = 0; what < 8; what++) {
+                Checks.due("anew: told(" + what + ")", x.told(what), told[what]);
+            }
+            for (int f = 1; f <= 8; f++) {
+                Checks.due("anew: missed(" + f + ")", x.missed(f), f - 1);
+            }
+            int[][] lookers = {{1, 2, 3, 4, 5, 0}, {5, 4, 3, 2, 1, 0}};
+            for (int k = 0; k < 2; k++) {
+                for (int what = 0; what < 6; what++) {
+                    Checks.due("anew: looker(" + k + ", " + what + ")", x.looker(k, what), lookers[k][what]);
+                }
+            }
+            Checks.row("anew", x, 0, 0, 2);
+            Checks.row("anew", x, 1, 1);
+            for (int s = 0; s < 3; s++) {
+                Checks.due("anew: disc in " + s, x.sleeve(s, 5), s);
+            }
+            Checks.due("anew: divider", x.divider(0), 0);
+            Checks.due("anew: divider", x.divider(1), 1);
+            Checks.due("anew: changes", x.changes(), 0);
+        }
+        // Clauses, crates, sleeves and lookers are counted anew, and so is the crate behind another clause.
+        FlickedCrates x = new FlickedCrates();
+        for (int round = 0; round < 3; round++) {
+            good(x, "crate 0;" + "stop 5;".repeat(59), 0);
+            good(x, "crate 0;crate 1;crate 2;crate 3;crate 4;crate 5;crate 6;crate 7;", 0);
+            good(x, "crate 0;" + "sleeve 1 2 3;".repeat(24), 24);
+            good(x, "crate 0;" + "looker 0 1 0 0 0;".repeat(6), 0);
+        }
     }
 }
