@@ -31,6 +31,7 @@ public final class DayEdgesTest {
         putBackAtTheLast();
         putBackBetween();
         putBackOneByOne();
+        drawnThoughAllIsOne();
         roundedUp();
         forEachHeldUp();
         moneyEachTime();
@@ -487,6 +488,32 @@ public final class DayEdgesTest {
                 }
             }
         }
+    }
+
+    /** Each DRAW is taken, also where one answer alone is possible: in a single crate, by which the next looker's draws tell. */
+    private static void drawnThoughAllIsOne() {
+        for (int missed = 0; missed <= 8; missed += 2) {
+            for (int[] back : WEIGHTS) {
+                FlickedCrates x = Checks.of("crate 0;" + "sleeve 0 9 9;".repeat(4) + "looker 0 4 0 0 0;looker 300 5 0 0 0;miss 4 " + missed
+                        + ";miss 5 3;back " + back[0] + " " + back[1] + " " + back[2] + " " + back[3] + ";");
+                for (int seed : SEEDS) {
+                    Draws draws = new Draws(seed);
+                    int held = passing(draws, missed, back) + passing(draws, 3, back);
+                    Checks.due("held up by two, " + missed + " missed, by " + seed, x.would(seed, 3), held);
+                }
+            }
+        }
+    }
+
+    private static int passing(Draws draws, int missed, int[] back) {
+        int held = 0;
+        for (int s = 0; s < 4; s++) {
+            held += draws.of(8) >= missed ? 1 : 0;
+        }
+        for (int i = 0; i < held; i++) {
+            Checks.due("in the only crate", drawn(draws, back, 0, 0, 1), 0);
+        }
+        return held;
     }
 
     /** "as many seconds later as SLEEVES were in the row by PACE, rounded up". */
