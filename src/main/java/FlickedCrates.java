@@ -318,11 +318,11 @@ public final class FlickedCrates {
     public int round(int what) throws IllegalArgumentException {
         need(what == 0 || what == 1);
         int best = 0;
-        int fewest = Integer.MAX_VALUE;
+        int fewest = NONE;
         for (int lefts = 0; lefts < 1 << told.lookers; lefts++) {
             theDay.go(0, lefts, true);
             int waited = theDay.waited.sum();
-            if (waited < fewest) {
+            if (fewest == NONE || waited < fewest) {
                 best = lefts;
                 fewest = waited;
             }

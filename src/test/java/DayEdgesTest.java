@@ -16,6 +16,7 @@ public final class DayEdgesTest {
         whoComesFirst();
         notComeYet();
         whoseTurnComesLater();
+        waitsAndChangesInOneSecond();
         sixInARow();
         bothWaysWithOneCrate();
         lastSecond();
@@ -204,6 +205,16 @@ public final class DayEdgesTest {
         FlickedCrates x = Checks.of(rows(0, 0) + looker(0, 1) + looker(0, 1) + "left 1;");
         gone(x, 2, 1);
         waited(x, 0, 0);
+    }
+
+    /**
+     * "WAITED: all such seconds together": 0 waits in second 3 for 1, who then changes with 2; by 2's turn, who is done at
+     * once in the empty crate, 0 comes there in the same second.
+     */
+    private static void waitsAndChangesInOneSecond() {
+        FlickedCrates x = Checks.of(rows(1, 0, 2) + looker(1, 1) + looker(0, 1) + looker(1, 1) + "left 2;");
+        waited(x, 4, 1, 0);
+        gone(x, 8, 5, 4);
     }
 
     /** "LOOKERS by number": of six who come together the k-th waits k seconds. */
